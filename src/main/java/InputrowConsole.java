@@ -95,10 +95,10 @@ public final class InputrowConsole {
         if (isMarked) {
             lineRule.bring('?');
         }
-        bringNumber(one);
+        lineRule.bringNumber(one);
         if (two != 0) {
             lineRule.bring(';');
-            bringNumber(two);
+            lineRule.bringNumber(two);
         }
         lineRule.bring(b);
         settle();
@@ -216,7 +216,7 @@ public final class InputrowConsole {
         for (int row = 0; row < picture.rows(); row++) {
             costs += slowLine.costsOf(picture, row);
         }
-        slowLine.drawn.copy(picture);
+        slowLine.drawn.copyCells(picture);
         return costs;
     }
 
@@ -303,16 +303,6 @@ public final class InputrowConsole {
         }
     }
 
-    private void bringNumber(int number) {
-        if (number >= 100) {
-            lineRule.bring('0' + number / 100);
-        }
-        if (number >= 10) {
-            lineRule.bring('0' + number / 10 % 10);
-        }
-        lineRule.bring('0' + number % 10);
-    }
-
     private void addBracket(int last) {
         typed.add(ESC);
         typed.add('[');
@@ -377,7 +367,7 @@ public final class InputrowConsole {
 
         void addNumber(int number) {
             if (number >= 100) {
-                add('0' + number / 100 % 10);
+                add('0' + number / 100);
             }
             if (number >= 10) {
                 add('0' + number / 10 % 10);
@@ -574,13 +564,12 @@ public final class InputrowConsole {
             setGoing(rows - 1, false);
         }
 
-        void copy(Picture from) {
-            begin(from.rows(), from.columns());
+        /** The other picture has the same size; its rows' going on is nothing to a slow line. */
+        void copyCells(Picture from) {
             for (int row = 0; row < rows; row++) {
                 for (int column = 0; column < columns; column++) {
                     put(row, column, from.at(row, column));
                 }
-                setGoing(row, from.isGoing(row));
             }
         }
     }
@@ -1425,6 +1414,11 @@ public final class InputrowConsole {
             target.add(b);
         }
 
+        void bringNumber(int number) {
+            Bytes target = isStopped ? held : arriving;
+            target.addNumber(number);
+        }
+
         boolean change(boolean isRawThen, boolean echoesThen) {
             boolean wasRaw = isRaw;
             if (!wasRaw && isRawThen) {
@@ -1584,7 +1578,7 @@ public final class InputrowConsole {
 
         final Picture drawn = new Picture();
         private final int[] costs = new int[(MOST_COLUMNS + 1) * ATTRIBUTES];
-        private final boolean[] isLike = new boolean[MOST_COLUMNS + 1];
+        private final boolean[] isLike = new boolean[MOST_COLUMNS];
 
         void begin(int rows, int columns) {
             drawn.begin(rows, columns);

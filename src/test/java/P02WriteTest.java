@@ -267,6 +267,18 @@ public final class P02WriteTest {
         Check.due("OTHER", Check.rows(x), "..... ..... .....");
         InputrowConsole y = Check.with("#[3g#cab");
         Check.due("tabs", y.told(20), 4);
+        Check.due("INSERT", Check.row(Check.with("#[4h#cabc#[1;1Hx"), 0), "xbc.........");
+        Check.due("ORIGIN", Check.cursor(Check.with("#[2;3r#[?6h#c#[2;3r#[1;1H")), "0,0");
+        Check.due("region: first", Check.with("#[2;3r#c").told(5), 0);
+        Check.due("region: last", Check.with("#[2;3r#c").told(6), 5);
+        Check.due("what was saved", Check.cursor(Check.with("#[3;4H#7#c#[5;5H#8")), "0,0");
+        Check.due("saved attribute", Check.with("#[1m#7#c#[2m#8").told(4), 0);
+        Check.due("saved ORIGIN", Check.cursor(Check.with("#[2;3r#[?6h#7#c#8#[2;3r#[1;1H")), "0,0");
+        Check.due("WRAP", Check.rows(Check.with(2, 4, "#[?7l#cabcde")), "abcd+ e...");
+        Check.due("flags", Check.rows(Check.with(2, 4, "abcde#c")), ".... ....");
+        InputrowConsole other = Check.with(2, 4, "abcdefghij#[?47h#c");
+        Check.due("the history ends, from OTHER, too", other.goesOn(-1), false);
+        Check.due("MAIN is shown", other.told(11), 0);
     }
 
     private static void held() {

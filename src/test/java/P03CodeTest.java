@@ -5,6 +5,7 @@ public final class P03CodeTest {
     public static void main(String[] args) {
         wrongArguments();
         whatIsWritten();
+        noRoom();
         numbers();
         wrongCodes();
         moves();
@@ -63,6 +64,30 @@ public final class P03CodeTest {
         Check.due("room for 4", full.code(false, 5, 0, 'C'), 100);
         full.type(17);
         Check.due("25 codes", Check.cursor(full), "0,11");
+    }
+
+    private static void noRoom() {
+        int[][] lengths = {{0, 0, 4}, {9, 0, 4}, {10, 0, 5}, {99, 0, 5}, {100, 0, 6}, {999, 0, 6}, {5, 9, 6}, {5, 10, 7},
+            {5, 99, 7}, {5, 100, 8}, {10, 10, 8}, {100, 100, 10}};
+        for (int[] l : lengths) {
+            for (int marked = 0; marked <= 1; marked++) {
+                InputrowConsole x = new InputrowConsole();
+                x.type(19);
+                for (int i = 0; i < 100 - l[2] - marked; i++) {
+                    x.write('a');
+                }
+                String name = marked + ", " + l[0] + ", " + l[1];
+                boolean isMarked = marked == 1;
+                InputrowConsole y = new InputrowConsole();
+                y.type(19);
+                for (int i = 0; i < 101 - l[2] - marked; i++) {
+                    y.write('a');
+                }
+                Check.due("just room: " + name, x.code(isMarked, l[0], l[1], 'A'), 100);
+                Check.badState("no room: " + name, () -> y.code(isMarked, l[0], l[1], 'A'));
+                Check.due("nothing is held of it: " + name, y.told(13), 101 - l[2] - marked);
+            }
+        }
     }
 
     private static void numbers() {

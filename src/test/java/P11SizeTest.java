@@ -197,6 +197,9 @@ public final class P11SizeTest {
         cursorIn.size(4, 4);
         Check.due("the cursor in an empty last row of a paragraph", Check.cursor(cursorIn), "0,3");
         Check.due("the paragraph", Check.rows(cursorIn), "abcd .... .... ....");
+        InputrowConsole shorter = Check.with(4, 8, "abcdefghi#[2;1H#[X#[1;3H#[6P");
+        shorter.size(4, 4);
+        Check.due("up to its last cell that is not empty", Check.rows(shorter), "ab.. .... .... ....");
     }
 
     private static void limits() {
@@ -209,6 +212,19 @@ public final class P11SizeTest {
         Check.due("the oldest one", x.past(0, 0), (int) 'e');
         Check.due("the latest one", x.past(39, 3), (int) 't');
         Check.due("wider again", x.size(2, 24), 6);
+        InputrowConsole full = new InputrowConsole();
+        full.size(12, 24);
+        for (int i = 0; i < 60; i++) {
+            full.code(false, 99, 24, 'H');
+            full.write('x');
+            full.write('y');
+        }
+        Check.due("52 rows, but for the last one full", full.told(9), 40);
+        Check.due("each goes on", full.goesOn(-40), true);
+        Check.due("wrapped at 4", full.size(12, 4), 40);
+        Check.due("the last of them", Check.rows(full).substring(30), "y...+ ....+ ....+ ....+ ....+ ...x+ y...");
+        Check.due("back", full.size(12, 24), 0);
+        Check.due("what is left", Check.row(full, 8), "...........xy...........");
     }
 
     private static void savedCursor() {

@@ -31,7 +31,18 @@ public final class P14CellAnewTest {
         Check.write(x, "Cz");
         same("behind it", x);
         Check.due("the cell itself", x.cell(x.told(0), 5), 1000 + 'z');
+        manyBytes();
         Check.end();
+    }
+
+    private static void manyBytes() {
+        InputrowConsole x = new InputrowConsole();
+        for (int i = 0; i < 400; i++) {
+            x.code(false, 999, 999, 'H');
+        }
+        Check.write(x, "#[2;3Hz");
+        same("many bytes", x);
+        Check.due("the last one of many", x.cellAnew(1, 2), (int) 'z');
     }
 
     private static void same(String name, InputrowConsole x) {
