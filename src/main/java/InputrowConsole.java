@@ -24,6 +24,8 @@ public final class InputrowConsole {
     private static final int MOST_FOR_PROGRAM = 200;
     // A pasted draft with what stands ahead of it and behind it has 52 bytes.
     private static final int MOST_TYPED = 64;
+    // The longest answer is that to 6: ESC [ 12 ; 24 R.
+    private static final int MOST_ANSWERED = 8;
     // The dearest echo is a whole line of bytes below 32 taken away: 180 bytes.
     private static final int MOST_ARRIVING = 256;
     private static final int MOST_NUMBER = 999;
@@ -51,15 +53,12 @@ public final class InputrowConsole {
 
     private static final char[] KEY_LETTERS = {'A', 'B', 'C', 'D', 'H', 'F'};
 
-    private final Bytes program = new Bytes(MOST_FOR_PROGRAM);
     private final Bytes typed = new Bytes(MOST_TYPED);
-    private final Bytes arriving = new Bytes(MOST_ARRIVING);
     private final Bytes toPaste = new Bytes(MOST_IN_DRAFT);
-    private final LineRule lineRule = new LineRule(program, arriving);
-    private final Screen screen = new Screen(program);
+    private final LineRule lineRule = new LineRule();
+    private final Screen screen = new Screen();
     private final Tape tape = new Tape();
-    // What the played screen sends is no news to the program: this row takes it and is never read.
-    private final Screen screenAnew = new Screen(new Bytes(1));
+    private final Screen screenAnew = new Screen();
     private final SlowLine slowLine = new SlowLine();
 
     public InputrowConsole() {
@@ -197,7 +196,7 @@ public final class InputrowConsole {
     }
 
     public int take() {
-        return program.removeFirst();
+        return lineRule.program.removeFirst();
     }
 
     public int size(int rows, int columns) throws IllegalArgumentException {
@@ -207,7 +206,7 @@ public final class InputrowConsole {
         tape.noteSize(rows, columns);
         screen.resize(rows, columns);
         slowLine.begin(rows, columns);
-        return screen.history.count();
+        return screen.main.history.count();
     }
 
     public int draw() {
@@ -238,18 +237,18 @@ public final class InputrowConsole {
     }
 
     public int past(int row, int column) throws IndexOutOfBoundsException {
-        if (row < 0 || row >= screen.history.count() || column < 0 || column >= screen.columns) {
+        if (row < 0 || row >= screen.main.history.count() || column < 0 || column >= screen.columns) {
             throw new IndexOutOfBoundsException("no such cell");
         }
-        return screen.history.at(row, column);
+        return screen.main.history.at(row, column);
     }
 
     public boolean goesOn(int row) throws IndexOutOfBoundsException {
-        int count = screen.history.count();
+        int count = screen.main.history.count();
         if (row < -count || row >= screen.rows) {
             throw new IndexOutOfBoundsException("no such row");
         }
-        return row < 0 ? screen.history.isGoing(count + row) : screen.shown().isGoing(row);
+        return row < 0 ? screen.main.history.isGoing(count + row) : screen.shown().isGoing(row);
     }
 
     public int title(int place) throws IndexOutOfBoundsException {
@@ -276,7 +275,7 @@ public final class InputrowConsole {
             case 12: return lineRule.isStopped ? 1 : 0;
             case 13: return lineRule.held.count();
             case 14: return lineRule.line.count();
-            case 15: return program.count();
+            case 15: return lineRule.program.count();
             case 16: return lineRule.ends;
             case 17: return lineRule.interrupts;
             case 18: return screen.modes.isShown ? 1 : 0;
@@ -291,10 +290,11 @@ public final class InputrowConsole {
     /** An echo comes to the screen before the next typed byte, as it may change what that one does. */
     private void settle() {
         for (int step = 0; step < MOST_STEPS; step++) {
-            if (arriving.count() > 0) {
-                int b = arriving.removeFirst();
+            if (lineRule.arriving.count() > 0) {
+                int b = lineRule.arriving.removeFirst();
                 tape.noteByte(b);
                 screen.receive(b);
+                lineRule.program.addAll(screen.answers);
             } else if (typed.count() > 0) {
                 lineRule.accept(typed.removeFirst());
             } else {
@@ -388,11 +388,12 @@ public final class InputrowConsole {
         }
 
         int removeFirst() {
-            int b = at(0);
-            if (count > 0) {
-                first = placeOf(1);
-                count--;
+            if (count <= 0 || first < 0 || first >= bytes.length) {
+                return NONE;
             }
+            int b = bytes[first];
+            first = placeOf(1);
+            count--;
             return b;
         }
 
@@ -409,11 +410,11 @@ public final class InputrowConsole {
             count = 0;
         }
 
-        void copy(Bytes from) {
-            clear();
+        /** Takes all bytes of the other row; for those without room here they are lost. */
+        void addAll(Bytes from) {
             int length = from.count();
             for (int i = 0; i < length; i++) {
-                add(from.at(i));
+                add(from.removeFirst());
             }
         }
     }
@@ -788,7 +789,8 @@ public final class InputrowConsole {
         private void readTitle(int b) {
             if (b == RING) {
                 state = GROUND;
-                title.copy(titleToBe);
+                title.clear();
+                title.addAll(titleToBe);
             } else if (b == ESC) {
                 state = ESCAPE;
             } else if (b == CANCEL) {
@@ -804,16 +806,15 @@ public final class InputrowConsole {
         // After so many the region and the history are all empty, and one more changes nothing.
         private static final int MOST_SCROLLS = MOST_ROWS + MOST_PAST;
 
-        final History history = new History();
+        final Main main = new Main();
         final Cursor cursor = new Cursor();
         final Modes modes = new Modes();
         final Reader reader = new Reader();
-        private final Picture main = new Picture();
+        // Those of the screen that is played anew are never fetched, and lost when this is full.
+        final Bytes answers = new Bytes(MOST_ANSWERED);
         private final Picture other = new Picture();
         private final Cursor saved = new Cursor();
-        private final Wrapper wrapper = new Wrapper(main, history);
         private final boolean[] tabs = new boolean[MOST_COLUMNS];
-        private final Bytes answers;
         boolean isOther;
         int rows = FIRST_ROWS;
         int columns = FIRST_COLUMNS;
@@ -821,13 +822,12 @@ public final class InputrowConsole {
         private int top;
         private int bottom = FIRST_ROWS - 1;
 
-        Screen(Bytes answers) {
-            this.answers = answers;
+        Screen() {
             setFirstTabs(0);
         }
 
         Picture shown() {
-            return isOther ? other : main;
+            return isOther ? other : main.picture;
         }
 
         boolean has(int row, int column) {
@@ -845,7 +845,7 @@ public final class InputrowConsole {
                 case 6: return bottom;
                 case 7: return rows;
                 case 8: return columns;
-                case 9: return history.count();
+                case 9: return main.history.count();
                 default: return NONE;
             }
         }
@@ -950,9 +950,9 @@ public final class InputrowConsole {
             Picture picture = shown();
             boolean isKept = mayKeep && first == 0 && !isOther;
             if (isKept) {
-                history.add(picture.isGoing(0));
+                main.history.add(picture.isGoing(0));
                 for (int column = 0; column < columns; column++) {
-                    history.putLatest(column, picture.at(0, column));
+                    main.history.putLatest(column, picture.at(0, column));
                 }
             }
             picture.moveUp(first, last);
@@ -970,7 +970,7 @@ public final class InputrowConsole {
             if (first > 0) {
                 shown().setGoing(first - 1, false);
             } else if (!isOther) {
-                history.endLatest();
+                main.history.endLatest();
             }
         }
 
@@ -1010,7 +1010,7 @@ public final class InputrowConsole {
 
         private void reset() {
             isOther = false;
-            main.clear();
+            main.picture.clear();
             other.clear();
             cursor.reset();
             saved.reset();
@@ -1018,7 +1018,7 @@ public final class InputrowConsole {
             top = 0;
             bottom = rows - 1;
             setFirstTabs(0);
-            history.endLatest();
+            main.history.endLatest();
         }
 
         private void coded(int b) {
@@ -1068,7 +1068,7 @@ public final class InputrowConsole {
         /** What J erases but the cursor's own row. */
         private void eraseOtherRows(int how) {
             if (how == 3) {
-                history.clear();
+                main.history.clear();
             }
             Picture picture = shown();
             for (int row = 0; row < rows; row++) {
@@ -1213,7 +1213,7 @@ public final class InputrowConsole {
 
         void resize(int newRows, int newColumns) {
             int oldColumns = columns;
-            wrapper.wrap(isOther ? saved : cursor, newRows, newColumns);
+            main.wrap(isOther ? saved : cursor, newRows, newColumns);
             other.cut(newRows, newColumns);
             rows = newRows;
             columns = newColumns;
@@ -1226,14 +1226,14 @@ public final class InputrowConsole {
         }
     }
 
-    /** Wraps MAIN and its history anew: all cells in one row, and where in it each new row begins. */
-    private static final class Wrapper {
+    /** MAIN with its history; to wrap them anew it lays all cells in one row, and marks where each new row begins. */
+    private static final class Main {
         private static final int MOST_CELLS = (MOST_PAST + MOST_ROWS) * MOST_COLUMNS;
         // Each row but a paragraph's last one has three cells at least: 416 and 52 rows.
         private static final int MOST_LAID = 512;
 
-        private final Picture main;
-        private final History history;
+        final Picture picture = new Picture();
+        final History history = new History();
         private final int[] cells = new int[MOST_CELLS];
         private final int[] starts = new int[MOST_LAID];
         private final int[] lengths = new int[MOST_LAID];
@@ -1244,11 +1244,6 @@ public final class InputrowConsole {
         private int cursorRow;
         private int cursorColumn;
         private boolean isDue;
-
-        Wrapper(Picture main, History history) {
-            this.main = main;
-            this.history = history;
-        }
 
         /** The cursor is the one that stays at its cell of MAIN. */
         void wrap(Cursor cursor, int rows, int columns) {
@@ -1266,16 +1261,17 @@ public final class InputrowConsole {
                 isInside = row + 1 < total && isGoing(row);
                 layRow(row, isInside, row == above + cursor.row ? cursor.column : NONE);
             }
-            putBack(rows, columns, Math.min(Math.max(laid - rows, 0), cursorRow));
-            cursor.row = cursorRow - Math.min(Math.max(laid - rows, 0), cursorRow);
+            int start = Math.min(Math.max(laid - rows, 0), cursorRow);
+            putBack(rows, columns, start);
+            cursor.row = cursorRow - start;
             cursor.column = cursorColumn;
             cursor.isLate = cursor.isLate && cursorColumn == width - 1;
         }
 
         /** Empty rows at the end of the screen, behind the cursor's one, are not kept. */
         private int keptRows(int row) {
-            int last = main.rows() - 1;
-            for (int i = 0; i < MOST_ROWS && last > row && main.filled(last) == 0; i++) {
+            int last = picture.rows() - 1;
+            for (int i = 0; i < MOST_ROWS && last > row && picture.filled(last) == 0; i++) {
                 last--;
             }
             return last + 1;
@@ -1283,16 +1279,16 @@ public final class InputrowConsole {
 
         private boolean isGoing(int row) {
             int above = history.count();
-            return row < above ? history.isGoing(row) : main.isGoing(row - above);
+            return row < above ? history.isGoing(row) : picture.isGoing(row - above);
         }
 
         private int at(int row, int column) {
             int above = history.count();
-            return row < above ? history.at(row, column) : main.at(row - above, column);
+            return row < above ? history.at(row, column) : picture.at(row - above, column);
         }
 
         private int cellsOf(int row, boolean isInside) {
-            int count = main.columns();
+            int count = picture.columns();
             if (isInside) {
                 boolean isLeft = at(row, count - 1) == EMPTY && isWide(at(row + 1, 0));
                 return isLeft ? count - 1 : count;
@@ -1361,12 +1357,12 @@ public final class InputrowConsole {
 
         private void putBack(int rows, int columns, int start) {
             history.clear();
-            main.begin(rows, columns);
+            picture.begin(rows, columns);
             for (int i = Math.max(start - MOST_PAST, 0); i < laid && i < MOST_LAID; i++) {
                 if (i < start) {
                     history.add(going[i]);
                 } else {
-                    main.setGoing(i - start, going[i] && i - start < rows - 1);
+                    picture.setGoing(i - start, going[i] && i - start < rows - 1);
                 }
                 for (int column = 0; column < lengths[i] && column < MOST_COLUMNS; column++) {
                     int place = starts[i] + column;
@@ -1374,7 +1370,7 @@ public final class InputrowConsole {
                     if (i < start) {
                         history.putLatest(column, value);
                     } else {
-                        main.put(i - start, column, value);
+                        picture.put(i - start, column, value);
                     }
                 }
             }
@@ -1392,18 +1388,13 @@ public final class InputrowConsole {
 
         final Bytes line = new Bytes(MOST_IN_LINE);
         final Bytes held = new Bytes(MOST_HELD);
-        private final Bytes program;
-        private final Bytes arriving;
+        final Bytes program = new Bytes(MOST_FOR_PROGRAM);
+        final Bytes arriving = new Bytes(MOST_ARRIVING);
         private boolean isRaw;
         private boolean echoes = true;
         boolean isStopped;
         int ends;
         int interrupts;
-
-        LineRule(Bytes program, Bytes arriving) {
-            this.program = program;
-            this.arriving = arriving;
-        }
 
         boolean hasRoomFor(int count) {
             return !isStopped || held.room() >= count;
@@ -1483,10 +1474,7 @@ public final class InputrowConsole {
         }
 
         private void sendLine() {
-            int count = line.count();
-            for (int i = 0; i < count; i++) {
-                program.add(line.removeFirst());
-            }
+            program.addAll(line);
         }
 
         private void endLine() {
@@ -1505,10 +1493,7 @@ public final class InputrowConsole {
 
         private void start() {
             isStopped = false;
-            int count = held.count();
-            for (int i = 0; i < count; i++) {
-                arriving.add(held.removeFirst());
-            }
+            arriving.addAll(held);
         }
 
         private void addToLine(int b) {
