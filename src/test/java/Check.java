@@ -142,6 +142,21 @@ final class Check {
         return x.told(0) + "," + x.told(1) + (x.told(2) == 1 ? "!" : "");
     }
 
+    /** All that can be asked without changing anything. */
+    static String all(InputrowConsole x) {
+        StringBuilder text = new StringBuilder(rows(x)).append(past(x)).append(title(x));
+        for (int what = 0; what <= 20; what++) {
+            text.append(' ').append(x.told(what));
+        }
+        for (int row = 0; row < x.told(7); row++) {
+            text.append(' ').append(x.least(row));
+            for (int column = 0; column < x.told(8); column++) {
+                text.append(' ').append(x.cell(row, column)).append(' ').append(x.cellAnew(row, column));
+            }
+        }
+        return text.toString();
+    }
+
     static String title(InputrowConsole x) {
         StringBuilder text = new StringBuilder();
         for (int place = 0; place < x.told(19); place++) {

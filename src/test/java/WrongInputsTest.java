@@ -14,7 +14,7 @@ public final class WrongInputsTest {
         Check.type(x, "rest");
         Check.write(x, "held");
         Check.draft(x, "draft");
-        before = all();
+        before = Check.all(x);
         for (int far : FAR) {
             written(far);
             asked(far);
@@ -23,24 +23,9 @@ public final class WrongInputsTest {
         Check.end();
     }
 
-    /** All that can be asked without changing anything. */
-    private static String all() {
-        StringBuilder text = new StringBuilder(Check.rows(x)).append(Check.past(x)).append(Check.title(x));
-        for (int what = 0; what <= 20; what++) {
-            text.append(' ').append(x.told(what));
-        }
-        for (int row = 0; row < x.told(7); row++) {
-            text.append(' ').append(x.least(row));
-            for (int column = 0; column < x.told(8); column++) {
-                text.append(' ').append(x.cell(row, column)).append(' ').append(x.cellAnew(row, column));
-            }
-        }
-        return text.toString();
-    }
-
     private static void due(String call, String exception, Check.Call made) {
         Check.dueThrow(call, exception, made);
-        Check.due("nothing is changed by " + call, all(), before);
+        Check.due("nothing is changed by " + call, Check.all(x), before);
     }
 
     private static void written(int far) {
