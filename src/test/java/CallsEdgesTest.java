@@ -6,6 +6,7 @@ public final class CallsEdgesTest {
         codes();
         signs();
         sizes();
+        sizesWithText();
         scrolls();
         pastes();
         echoes();
@@ -41,6 +42,19 @@ public final class CallsEdgesTest {
         }
         Check.due("the sign", x.cell(0, 0), (int) 'a');
         Check.due("call 512", x.cellAnew(0, 0), (int) 'a');
+    }
+
+    private static void sizesWithText() {
+        String signs = "abcdefghijklmnopqrstuvwxyzabcdefghijklmnopqrst";
+        InputrowConsole x = Check.with(signs);
+        int last = CALLS - 2 * signs.length();
+        for (int i = signs.length() + 1; i < last; i++) {
+            x.size(2 + i % 11, 4 + i % 21);
+        }
+        x.size(6, 12);
+        for (int i = 0; i < signs.length(); i++) {
+            Check.due("the sign " + i, x.cell(i / 12, i % 12), (int) signs.charAt(i));
+        }
     }
 
     private static void scrolls() {

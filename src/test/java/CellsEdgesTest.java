@@ -1,8 +1,13 @@
+import java.util.ArrayList;
+import java.util.List;
+
 /** The boundary cases of the document's section "Cells"; the comments are its sentences. */
 public final class CellsEdgesTest {
     private static final String SIX = "a\r\nb\r\nc\r\nd\r\ne\r\nf";
     // Six rows of four cells, all but the last one go on; the first one is in the history.
     private static final String GOING = "abcdefghijklmnopqrstuvwx";
+    // Six rows of four cells, of which some go on; the first one is in the history.
+    private static final String SOME_GOING = "1234abcdefghij\r\nklmnop";
 
     public static void main(String[] args) {
         sizesOfTheScreen();
@@ -20,6 +25,9 @@ public final class CellsEdgesTest {
         leavingForTheHistory();
         goingOnUp();
         goingOnDown();
+        goingOnAsItDid();
+        fullHistoryGoingOn();
+        emptyCellsOfTheHistory();
         Check.end();
     }
 
@@ -340,5 +348,75 @@ public final class CellsEdgesTest {
         going("#[2;4r#[4;1H#[L", "abcd+", "efgh+ ijkl+ mnop .... uvwx");
         InputrowConsole other = Check.with(5, 4, GOING + "#[?47h" + "#[H#M#[T#[L");
         Check.due("OTHER does not end the history", other.goesOn(-1), true);
+    }
+
+    private static void goingOfSome(String then, String past, String rows) {
+        InputrowConsole x = Check.with(5, 4, SOME_GOING + then);
+        Check.due("some go on, the history behind " + then, Check.past(x), past);
+        Check.due("some go on, rows behind " + then, Check.rows(x), rows);
+    }
+
+    /** A row that moves goes on as it did. */
+    private static void goingOnAsItDid() {
+        goingOfSome("", "1234+", "abcd+ efgh+ ij.. klmn+ op..");
+        goingOfSome("#[S", "1234+ abcd+", "efgh+ ij.. klmn+ op.. ....");
+        goingOfSome("#[3S", "1234+ abcd+ efgh+ ij..", "klmn+ op.. .... .... ....");
+        goingOfSome("#[1;3r#[S", "1234+ abcd+", "efgh+ ij.. .... klmn+ op..");
+        goingOfSome("#[1;2r#[3S", "1234+ abcd+ efgh+ ....", ".... .... ij.. klmn+ op..");
+        goingOfSome("#[2;4r#[S", "1234+", "abcd ij.. klmn+ .... op..");
+        goingOfSome("#[2;5r#[2S", "1234+", "abcd klmn+ op.. .... ....");
+        goingOfSome("#[2;1H#[M", "1234+", "abcd ij.. klmn+ op.. ....");
+        goingOfSome("#[3;1H#[M", "1234+", "abcd+ efgh klmn+ op.. ....");
+        goingOfSome("#[T", "1234", ".... abcd+ efgh+ ij.. klmn");
+        goingOfSome("#[2T", "1234", ".... .... abcd+ efgh+ ij..");
+        goingOfSome("#[1;1H#M", "1234", ".... abcd+ efgh+ ij.. klmn");
+        goingOfSome("#[1;4r#[T", "1234", ".... abcd+ efgh+ ij.. op..");
+        goingOfSome("#[2;5r#[T", "1234+", "abcd .... efgh+ ij.. klmn");
+        goingOfSome("#[2;5r#[2;1H#M", "1234+", "abcd .... efgh+ ij.. klmn");
+        goingOfSome("#[2;5r#[2T", "1234+", "abcd .... .... efgh+ ij..");
+        goingOfSome("#[2;1H#[L", "1234+", "abcd .... efgh+ ij.. klmn");
+        goingOfSome("#[1;1H#[2L", "1234", ".... .... abcd+ efgh+ ij..");
+        goingOfSome("#[3;1H#[L", "1234+", "abcd+ efgh .... ij.. klmn");
+        InputrowConsole other = Check.with(5, 4, "#[?47habcdefghij\r\nklmnop#[T");
+        Check.due("OTHER down", Check.rows(other), ".... abcd+ efgh+ ij.. klmn");
+        Check.write(other, "#[2S");
+        Check.due("OTHER up", Check.rows(other), "efgh+ ij.. klmn .... ....");
+    }
+
+    /** When there is one more, the oldest is gone: the others stay, each with its cells and its going on. */
+    private static void fullHistoryGoingOn() {
+        InputrowConsole x = Check.with(2, 4, "");
+        List<String> left = new ArrayList<>();
+        for (int line = 0; line < 40; line++) {
+            String signs = "abcdefghi".substring(0, line * 7 % 9 + 1);
+            for (int from = 0; from < signs.length(); from += 4) {
+                String row = signs.substring(from, Math.min(from + 4, signs.length()));
+                left.add(row + "....".substring(row.length()) + (from + 4 < signs.length() ? "+" : ""));
+            }
+            Check.write(x, signs + "\r\n");
+            // The last line's last row is still on the screen, above the cursor's one.
+            List<String> past = left.subList(Math.max(left.size() - 41, 0), left.size() - 1);
+            Check.due("line " + line, Check.past(x), String.join(" ", past));
+            Check.due("line " + line + ", the row above the cursor's", Check.row(x, 0), left.get(left.size() - 1));
+        }
+        Check.due("it is full", x.told(9), 40);
+    }
+
+    /** A row of the history has but the cells that it had when it left. */
+    private static void emptyCellsOfTheHistory() {
+        InputrowConsole again = Check.with(2, 4, "abcd\r\nefgh\r\nijkl\r\nm#[3J");
+        Check.due("erased", Check.past(again), "");
+        Check.write(again, "\r\no\r\np\r\nq");
+        Check.due("filled anew", Check.past(again), "ijkl m... o...");
+        InputrowConsole full = Check.with(2, 4, "abcd\r\ne");
+        for (int i = 0; i < 42; i++) {
+            Check.write(full, i % 2 == 0 ? "\r\nfghi" : "\r\nj");
+        }
+        Check.due("full: the latest one", full.past(39, 0) * 1000 + full.past(39, 3), (int) 'j' * 1000);
+        Check.due("full: the one ahead", full.past(38, 0) * 1000 + full.past(38, 3), 'f' * 1000 + 'i');
+        InputrowConsole wider = Check.with(2, 12, "abcdefghijklmnopqr\r\nz\r\ny\r\nx");
+        Check.due("narrow", Check.past(wider), "abcdefghijkl+ mnopqr...... z...........");
+        wider.size(2, 24);
+        Check.due("a shorter row in its place", Check.past(wider), "abcdefghijklmnopqr...... z.......................");
     }
 }

@@ -203,6 +203,11 @@ public final class ModesEdgesTest {
         Check.write(x, "#[5;5H#8");
         Check.due("what was saved", Check.cursor(x), "0,0");
         Check.due("the modes", modes(x), AT_FIRST);
+        for (int last = 2; last <= 6; last++) {
+            InputrowConsole region = Check.with("#[" + (last - 1) + ";" + last + "r#c");
+            Check.due("the region's first row, " + last, region.told(5), 0);
+            Check.due("the region's last row, " + last, region.told(6), 5);
+        }
         InputrowConsole none = Check.with("#c");
         Check.due("reset of a new one", Check.all(none), Check.all(new InputrowConsole()));
         for (int columns = 4; columns <= 24; columns++) {

@@ -23,12 +23,15 @@ public final class SizesEdgesTest {
         cursors();
         wrongSizes();
         historyLimit();
+        mostCells();
         savedCursor();
         goingRows();
         emptyRows();
         emptyParagraphs();
         blanks();
+        lastRowsThatWentOn();
         cellLeftForAWideSign();
+        cursorAtACellLeft();
         cursorAtWideSigns();
         cursorBehindAParagraph();
         rowsOfTheScreen();
@@ -268,6 +271,29 @@ public final class SizesEdgesTest {
         Check.due("40 empty rows, the least rows again", rows.size(2, 4), 40);
     }
 
+    /** 40 rows of the history and 12 of the screen, of 24 full cells each, in one paragraph. */
+    private static void mostCells() {
+        InputrowConsole x = Check.with(12, 24, "");
+        for (int row = 0; row < 52; row++) {
+            x.code(false, 999, 24, 'H');
+            x.write('a' + row % 26);
+            x.write('-');
+        }
+        // The last sign fed a line: with that row there is one more than there is room for, and the one of the a is gone.
+        Check.due("all rows", x.told(9), 40);
+        Check.due("the oldest one", x.past(0, 23), (int) 'b');
+        Check.write(x, "#[12;24Hz");
+        Check.due("narrow", x.size(12, 4), 40);
+        Check.due("its last row", Check.row(x, 11), "...z");
+        Check.due("the end of the row ahead", Check.row(x, 5), "...z+");
+        Check.due("the first cell of the last row", Check.row(x, 6), "-...+");
+        Check.due("its cursor", Check.cursor(x), "11,3!");
+        // Of the 1248 cells the last 208 stay, from the 9th one of the row of the s on.
+        Check.due("the end of the first row that stays in part", x.past(3, 3), (int) 's');
+        Check.due("wide: 52 rows of 4 in 9 of 24", x.size(12, 24), 0);
+        Check.due("wide: the last row", Check.row(x, 8), padded("...............z", 24));
+    }
+
     /** The saved cursor is as it was, while MAIN is shown. */
     private static void savedCursor() {
         InputrowConsole x = Check.with("#[6;12H#7#[1;1H");
@@ -361,6 +387,32 @@ public final class SizesEdgesTest {
         sized("left anew", Check.with(3, 8, "abcDeFGh"), 3, 4, "abc.+ D<e.+ F<G<+ h...", "2,1");
         sized("in each row", Check.with(2, 24, "aBCDE"), 5, 4, "aB<.+ C<D<+ E<.. .... ....", "2,2");
         sized("5 columns, wide signs alone", Check.with(2, 24, "ABCDE"), 3, 5, "A<B<.+ C<D<.+ E<...", "2,2");
+    }
+
+    /** The cell that a wide sign had no room for is none of the paragraph: the sign is at its place. */
+    private static void cursorAtACellLeft() {
+        sized("the same size", Check.with(4, 4, "abcDe#[1;4H"), 4, 4, "abc.+ D<e. .... ....", "1,0");
+        sized("wider", Check.with(4, 4, "abcDe#[1;4H"), 4, 6, "abcD<e ...... ...... ......", "0,3");
+        sized("a column less", Check.with(3, 8, "abcdefgHi#[1;8H"), 3, 7, "abcdefg+ H<i.... .......", "1,0");
+        sized("no cell left in the new row", Check.with(3, 6, "abcdeFg#[1;6H"), 3, 4, "abcd+ eF<g ....", "1,1");
+        sized("the row ahead of it is empty but for that", Check.with(3, 4, "abcDe#[1;1H#[4X#[1;4H"), 3, 4, "....+ D<e. ....", "1,0");
+        sized("two cells ahead of it", Check.with(3, 4, "abcDe#[1;2H#[3X#[1;3H"), 3, 4, "a...+ D<e. ....", "0,2");
+        sized("the sign in the last row", Check.with(2, 4, "abcDe#[1;4H"), 2, 4, "abc.+ D<e.", "1,0");
+        sized("the screen begins no later than with the sign", Check.with(4, 4, "abcDefGhijkl#[1;4H"), 2, 4,
+                "abc.+ D<ef+ G<hi", "0,0");
+    }
+
+    /** A row that goes on in one that is no paragraph is the last of its paragraph: up to its last cell that is not empty. */
+    private static void lastRowsThatWentOn() {
+        sized("on in an empty row", Check.with(4, 8, "abcdefghij#[2;1H#[2X#[1;4H#[5X#[1;1H"), 4, 4, "abc. .... .... ....", "0,0");
+        sized("on in an empty row, the same width", Check.with(4, 8, "abcdefghij#[2;1H#[2X#[1;4H#[5X#[1;1H"), 4, 8,
+                "abc..... ........ ........ ........", "0,0");
+        sized("on in an empty row that the cursor is in", Check.with(4, 8, "abcdefghij#[2;1H#[2X#[1;4H#[5X#[2;1H"), 4, 4,
+                "abc.+ .... .... ....", "1,3");
+        sized("the last row of the screen", Check.with(3, 8, "#[1;2r#[3;1Habcdefghi#[3;4H#[5X#[3;1H"), 3, 4,
+                ".... .... ibc.", "2,0");
+        sized("the last row of the screen, the same width", Check.with(3, 8, "#[1;2r#[3;1Habcdefghi#[3;4H#[5X#[3;1H"), 3, 8,
+                "........ ........ ibc.....", "2,0");
     }
 
     private static void cursorAtWideSigns() {
